@@ -77,6 +77,17 @@ public final class CauseTest {
         x.test(0, 0, 0, 0);
         check.due("slice of the latest write", x.slice(0, 0), bits(1, 2, 3));
         check.due("slice of a later write", x.slice(0, 1), bits(4, 5));
+        LineFinder y = new LineFinder();
+        for (int v = 0; v < 6; v++) {
+            y.line(7, v, 0, 0);
+        }
+        y.test(0, 0, 0, 0);
+        for (int v = 5; v >= 0; v--) {
+            check.due("slice of a variable that nobody wrote", y.slice(0, v), bits(v));
+        }
+        x.change(0, 7, 0, 0, 0);
+        check.due("slices begin anew", x.slice(0, 0), bits(0));
+        check.due("and again", x.slice(0, 0), bits(0));
     }
 
     private static void sliceRefusals(Check check) {

@@ -6,6 +6,7 @@ public final class ChangeTest {
         changeRefusals(check);
         changesHaveRoom(check);
         versions(check);
+        versionsOfAFullProgram(check);
         versionRefusals(check);
         halves(check);
         halvesOfTwenty(check);
@@ -92,6 +93,21 @@ public final class ChangeTest {
         check.due("and its out", x.out(0, 0), 0);
         x.open(0, true);
         check.due("version 2 of an open test", x.passesIn(2, 0), 1);
+    }
+
+    private static void versionsOfAFullProgram(Check check) {
+        LineFinder x = new LineFinder();
+        for (int i = 0; i < 24; i++) {
+            x.line(0, 0, i, 0);
+        }
+        x.test(0, 0, 0, 0);
+        x.change(23, 7, 0, 0, 0);
+        check.due("version 0 puts nothing out", x.passesIn(0, 0), 1);
+        check.due("version 1 puts a number out", x.passesIn(1, 0), 0);
+        check.due("change 0 broke it", x.broke(0), 0);
+        check.due("the number", x.out(0, 0), 22);
+        check.due("the slice of line 23", x.slice(0, 0), 1 << 22 | 1 << 23);
+        check.due("set to what is not wanted either", x.mends(0, 22), 0);
     }
 
     private static void versionRefusals(Check check) {

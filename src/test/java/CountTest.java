@@ -7,6 +7,7 @@ public final class CountTest {
         partingOfTheSame(check);
         partingByPriors(check);
         counts(check);
+        answersAreFresh(check);
         countOfOthers(check);
         refusalsOfEachNumber(check);
         check.end();
@@ -101,6 +102,9 @@ public final class CountTest {
         x.prior(5, 6);
         // {5} 6 * 8, each of the others 2 * 4: 48 to 56 over five, 56 to 48 over both: the least of the same
         check.due("48 to 56, or 56 to 48", x.parting(), overFive);
+        x.prior(7, 3);
+        // by 560: {5} 840, {7} 240, each of the others 140: 1080 to 840 over five, 940 to 980 over both
+        check.due("940 to 980 is nearer", x.parting(), overBoth);
         x.open(overFive, false);
         check.due("it passes or fails now", x.count(2) + x.count(3), 2);
         check.due("open ones", x.count(4), 2);
@@ -135,6 +139,36 @@ public final class CountTest {
         check.due("no cut run is left", x.count(6), 0);
         check.due("passing ones", x.count(3), 0);
         check.due("failing ones", x.count(2), 4);
+    }
+
+    /** Whatever tells something new, the next answer knows of it. */
+    private static void answersAreFresh(Check check) {
+        LineFinder x = new LineFinder();
+        x.test(0, 0, 0, 0);
+        check.due("passes", x.count(3), 1);
+        x.line(7, 0, 0, 0);
+        check.due("a line more: fails", x.count(2), 1);
+        check.due("a line more: a suspect", x.suspects(), 1);
+        x.wants(0, 0);
+        check.due("a number more: passes", x.count(3), 1);
+        check.due("a number more: no suspect", x.suspects(), 0);
+        x.test(0, 0, 0, 0);
+        check.due("a test more: fails", x.count(2), 1);
+        check.due("a test more: score", x.score(0, 0, 1), 2);
+        x.open(1, true);
+        check.due("open: no suspect", x.suspects(), 0);
+        x.open(1, false);
+        check.due("closed: a suspect", x.suspect(0), 1);
+        x.change(0, 0, 0, 0, 0);
+        check.due("a change: one fails", x.count(2), 1);
+        check.due("a change: one passes", x.count(3), 1);
+        check.due("a change: odds", x.odds(0), 2);
+        x.prior(0, 7);
+        check.due("a prior: odds", x.odds(0), 7);
+        x.passesIn(0, 0);
+        x.turnFor(0);
+        x.mends(0, 0);
+        check.due("looking elsewhere changes nothing", x.odds(0), 7);
     }
 
     private static void countOfOthers(Check check) {

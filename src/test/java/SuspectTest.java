@@ -246,6 +246,8 @@ public final class SuspectTest {
             x.line(0, 0, i, 0);
         }
         exam(x, 0, 1);
+        check.due("rank of line 23", x.rank(23, 0), 23);
+        check.due("rank of line 0", x.rank(0, 2), 0);
         long eight11 = 8589934592L;
         check.due("suspects of 24 lines", x.suspects(), 24);
         check.due("suspect 23", x.suspect(23), 1 << 23);
