@@ -20,6 +20,14 @@ final class Check {
         }
     }
 
+    void due(String what, String got, String want) {
+        seen++;
+        if (!got.equals(want)) {
+            wrong++;
+            System.out.println(name + ": " + what + " answered " + got + ", due is " + want);
+        }
+    }
+
     void dueThrow(String call, Call made) {
         seen++;
         try {
@@ -36,6 +44,14 @@ final class Check {
         for (int i = 0; i < 6; i++) {
             due("count(" + (11 + i) + ") " + when, x.count(11 + i), counts[i]);
         }
+    }
+
+    int seen() {
+        return seen;
+    }
+
+    int wrong() {
+        return wrong;
     }
 
     void end() {
