@@ -12,9 +12,11 @@ public final class EdgesOfChangesTest {
         s.holds("VERSION k of the PROGRAM: that with the first k CHANGES", EdgesOfChangesTest::firstChanges);
         s.holds("(0: as it was told; all: as it is)", EdgesOfChangesTest::firstAndLastVersion);
         s.holds("BROKE: of a TEST that FAILS in the last VERSION and PASSES in VERSION 0", EdgesOfChangesTest::canBreak);
+        s.holds("BY HALVES: low 0, high all", EdgesOfChangesTest::lowAndHighAtFirst);
         s.holds("as long as high is more than low and 1", EdgesOfChangesTest::asLongAs);
         s.holds("the middle (low and high, by 2, cut) is LOOKED at", EdgesOfChangesTest::middleIsCut);
         s.holds("FAILS: high is that, else low", EdgesOfChangesTest::ofTwenty);
+        s.holds("high is the VERSION; CHANGE high less 1 BROKE it", EdgesOfChangesTest::highIsTheVersion);
         s.holds("LOOKS: how many", EdgesOfChangesTest::howManyLooks);
         s.holds("(VERSIONS between may go to and fro.)", EdgesOfChangesTest::toAndFro);
         s.holds("of TESTS whose rows are not judged (told as OPEN)", EdgesOfChangesTest::openOnesAlone);
@@ -128,6 +130,20 @@ public final class EdgesOfChangesTest {
         check.due("it fails in both again", x.broke(1), -3);
     }
 
+    private static void lowAndHighAtFirst(Check check) {
+        for (int all = 2; all <= 20; all++) {
+            int[] values = new int[all];
+            for (int i = 0; i < all; i++) {
+                values[i] = 1;
+            }
+            values[all - 1] = 9;
+            check.due("the last alone of " + all, versions(values).broke(0), all - 1);
+            // the first look is at the middle of 0 and all; below it all are good
+            values[all / 2 - 1] = 9;
+            check.due("the middle and the last of " + all, versions(values).broke(0), all / 2 - 1);
+        }
+    }
+
     private static void asLongAs(Check check) {
         LineFinder one = brokenBy(0, 1);
         check.due("low 0, high 1", one.broke(0), 0);
@@ -161,6 +177,21 @@ public final class EdgesOfChangesTest {
     private static void ofTwenty(Check check) {
         for (int bad = 0; bad < 20; bad++) {
             check.due("change " + bad + " of 20", brokenBy(bad, 20).broke(0), bad);
+        }
+    }
+
+    private static void highIsTheVersion(Check check) {
+        // all ways in which versions 1 to 5 may go to and fro; version 6 is bad
+        for (int bad = 0; bad < 32; bad++) {
+            int[] values = new int[6];
+            for (int i = 0; i < 5; i++) {
+                values[i] = (bad >> i & 1) != 0 ? 9 : 1;
+            }
+            values[5] = 9;
+            LineFinder x = versions(values);
+            int change = x.broke(0);
+            check.due("ahead of change " + change + ", way " + bad, x.passesIn(change, 0), 1);
+            check.due("behind change " + change + ", way " + bad, x.passesIn(change + 1, 0), 0);
         }
     }
 

@@ -18,9 +18,13 @@ public final class EdgesOfRunsTest {
         s.holds("ints that go round", EdgesOfRunsTest::goRound);
         s.holds("0 as a RUN begins", EdgesOfRunsTest::zeroAsARunBegins);
         s.holds("0 x becomes y (a number -1000 .. 1000; z counts nothing)", EdgesOfRunsTest::number1000);
+        s.holds("1 x becomes y and z together", EdgesOfRunsTest::together);
+        s.holds("2 y less z", EdgesOfRunsTest::less);
+        s.holds("3 y times z (VARIABLES x, y, z)", EdgesOfRunsTest::times);
         s.holds("4 x becomes INPUT y (0 .. 3)", EdgesOfRunsTest::inputs0To3);
         s.holds("5 IF: if VARIABLE x is below VARIABLE y, LINE z is next", EdgesOfRunsTest::ifBelow);
         s.holds("6 LINE z is next", EdgesOfRunsTest::goes);
+        s.holds("7 VARIABLE x is put OUT", EdgesOfRunsTest::putOut);
         s.holds("z of 5 and 6: 0 .. 24", EdgesOfRunsTest::targets0To24);
         s.holds("LINES that there are not yet may be told", EdgesOfRunsTest::linesNotYet);
         s.holds("A RUN begins with LINE 0", EdgesOfRunsTest::beginsWithLine0);
@@ -184,6 +188,60 @@ public final class EdgesOfRunsTest {
         check.due("z counted nothing", x.out(0, 2), 1);
         check.due("numbers 1001 are bad of OP 0 alone", x.line(4, 0, 0, 1001), 10);
         check.dueRefusals("of numbers", x, 0, 0, 0, 2, 0, 2);
+    }
+
+    /** Variable 1 is 7, 2 is -3, 3 is 50: what they are behind an op with those x, y, z. */
+    private static void becomes(Check check, int[] row, int first, int second, int third) {
+        LineFinder x = Rows.program(Rows.number(1, 7), Rows.number(2, -3), Rows.number(3, 50), row,
+            Rows.out(1), Rows.out(2), Rows.out(3));
+        x.test(0, 0, 0, 0);
+        String told = " behind OP " + row[0] + " of " + row[1] + ", " + row[2] + ", " + row[3];
+        check.due("variable 1" + told, x.out(0, 0), first);
+        check.due("variable 2" + told, x.out(0, 1), second);
+        check.due("variable 3" + told, x.out(0, 2), third);
+    }
+
+    private static void together(Check check) {
+        becomes(check, Rows.plus(3, 1, 2), 7, -3, 4);
+        becomes(check, Rows.plus(3, 2, 1), 7, -3, 4);
+        becomes(check, Rows.plus(1, 1, 2), 4, -3, 50);
+        becomes(check, Rows.plus(2, 1, 2), 7, 4, 50);
+        becomes(check, Rows.plus(3, 1, 1), 7, -3, 14);
+        becomes(check, Rows.plus(2, 2, 2), 7, -6, 50);
+        becomes(check, Rows.plus(3, 1, 0), 7, -3, 7);
+    }
+
+    private static void less(Check check) {
+        becomes(check, Rows.minus(3, 1, 2), 7, -3, 10);
+        becomes(check, Rows.minus(3, 2, 1), 7, -3, -10);
+        becomes(check, Rows.minus(1, 1, 2), 10, -3, 50);
+        becomes(check, Rows.minus(2, 1, 2), 7, 10, 50);
+        becomes(check, Rows.minus(3, 1, 1), 7, -3, 0);
+        becomes(check, Rows.minus(2, 2, 2), 7, 0, 50);
+        becomes(check, Rows.minus(3, 0, 1), 7, -3, -7);
+    }
+
+    private static void times(Check check) {
+        becomes(check, Rows.times(3, 1, 2), 7, -3, -21);
+        becomes(check, Rows.times(3, 2, 1), 7, -3, -21);
+        becomes(check, Rows.times(1, 1, 2), -21, -3, 50);
+        becomes(check, Rows.times(2, 1, 2), 7, -21, 50);
+        becomes(check, Rows.times(3, 1, 1), 7, -3, 49);
+        becomes(check, Rows.times(2, 2, 2), 7, 9, 50);
+        becomes(check, Rows.times(3, 1, 0), 7, -3, 0);
+    }
+
+    private static void putOut(Check check) {
+        LineFinder x = Rows.program(Rows.number(3, 5), Rows.number(4, 6), Rows.out(4), Rows.out(3),
+            Rows.number(3, 8), Rows.out(3), Rows.out(3));
+        check.due("y and z count nothing", x.line(7, 4, 99, -99), 7);
+        x.test(0, 0, 0, 0);
+        check.due("how many", x.outs(0), 5);
+        check.due("variable 4, told first", x.out(0, 0), 6);
+        check.due("variable 3 as it is then", x.out(0, 1), 5);
+        check.due("variable 3 as it became", x.out(0, 2), 8);
+        check.due("it is still that", x.out(0, 3), 8);
+        check.due("variable 4 as it was", x.out(0, 4), 6);
     }
 
     private static void inputs0To3(Check check) {

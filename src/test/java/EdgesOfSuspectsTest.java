@@ -8,6 +8,8 @@ public final class EdgesOfSuspectsTest {
 
     static void all(Sentences s) {
         s.holds("A LINE is MET by a TEST if its RUN does it", EdgesOfSuspectsTest::met);
+        s.holds("a FAILING and b PASSING TESTS that MEET it, f, p all FAILING, PASSING ones",
+            EdgesOfSuspectsTest::testsThatCount);
         s.holds("0: a by (f and b)", EdgesOfSuspectsTest::scoreOfKind0);
         s.holds("1: a times a by f times (a and b)", EdgesOfSuspectsTest::scoreOfKind1);
         s.holds("2: a times p by (a times p and b times f)", EdgesOfSuspectsTest::scoreOfKind2);
@@ -68,6 +70,28 @@ public final class EdgesOfSuspectsTest {
         for (int i = 0; i < failAbove; i++) Rows.exam(x, 0);
         for (int i = 0; i < passAbove; i++) Rows.exam(x, 0, 5);
         return x;
+    }
+
+    private static void testsThatCount(Check check) {
+        // line 2 is done 5 times and 3 times by those that fail, twice by the one that passes: a 2, b 1
+        LineFinder often = Rows.countdown(Rows.out(0));
+        Rows.exam(often, 5, 1);
+        Rows.exam(often, 3, 1);
+        Rows.exam(often, 2, 0);
+        score(check, often, 2, 0, 2, 3);
+        score(check, often, 2, 1, 2, 3);
+        score(check, often, 2, 2, 1, 2);
+        // two that are OPEN, one that would fail and one that would pass, are of none of a, b, f, p
+        often.open(Rows.exam(often, 4, 1), true);
+        often.open(Rows.exam(often, 6, 0), true);
+        score(check, often, 2, 0, 2, 3);
+        score(check, often, 2, 1, 2, 3);
+        score(check, often, 2, 2, 1, 2);
+        // line 4: a 1, b 2, f 4, p 3: those that do not meet it are of f and p alone
+        LineFinder x = ways(1, 2, 3, 1);
+        score(check, x, 4, 0, 1, 6);
+        score(check, x, 4, 1, 1, 12);
+        score(check, x, 4, 2, 3, 11);
     }
 
     private static void scoreOfKind0(Check check) {
